@@ -30,10 +30,10 @@ public final class NailGold {
     private final Judge judge = new Judge();
     private final BookReader bookReader = new BookReader(tape);
     private final LawReader lawReader = new LawReader(tape);
-    private final NailPlan plan = new NailPlan(judge);
-    private final Market market = new Market();
     private final Book book = new Book();
     private final Court court = new Court();
+    private final NailPlan plan = new NailPlan(judge, book);
+    private final Market market = new Market(court);
     private final Book draftBook = new Book();
     private final Court draft = new Court();
     private final Book imageBook = new Book();
@@ -266,7 +266,7 @@ public final class NailGold {
         if (what < 0 || what > 3) {
             throw new NoSuchElementException("no such what");
         }
-        draftDays(n, 0);
+        draftDays(n, 0, court.seed);
         Man one = draft.man[man];
         switch (what) {
             case 0:
@@ -282,13 +282,13 @@ public final class NailGold {
 
     public int owes(int n) throws IllegalArgumentException {
         needWithin(n, 0, MOST_AHEAD);
-        draftDays(n, 0);
+        draftDays(n, 0, court.seed);
         return draft.debts;
     }
 
     public int chest(int n) throws IllegalArgumentException {
         needWithin(n, 0, MOST_AHEAD);
-        draftDays(n, 0);
+        draftDays(n, 0, court.seed);
         return draft.chest;
     }
 
@@ -326,7 +326,7 @@ public final class NailGold {
             return NONE;
         }
         draft.copyCourse(court);
-        plan.lookAt(man, book, draft, NailPlan.DAYS);
+        plan.lookAt(man, draft, NailPlan.DAYS);
         return k == NONE ? plan.mostKept(one.nails, one.trust) : plan.usedAheadOf(k, one.nails, one.trust);
     }
 
@@ -340,7 +340,7 @@ public final class NailGold {
         for (int nails = 0; nails < NailPlan.NAILS; nails++) {
             draft.copyCourse(court);
             draft.man[man].nails = nails;
-            plan.lookAt(man, book, draft, n);
+            plan.lookAt(man, draft, n);
             if (plan.mostKept(nails, one.trust) >= n) {
                 return nails;
             }
@@ -482,7 +482,7 @@ public final class NailGold {
         if (k != NONE) {
             needRival(k);
         }
-        market.weigh(court);
+        market.weigh();
         return k == NONE ? market.most() : market.gets(k);
     }
 
@@ -534,7 +534,7 @@ public final class NailGold {
 
     public int trial(int n, boolean men) throws IllegalArgumentException {
         needWithin(n, 0, MOST_AHEAD);
-        draftDays(n, book.luck);
+        draftDays(n, book.luck, court.seed);
         return men ? Integer.bitCount(draft.menIn(KEPT)) : draft.chest;
     }
 
@@ -542,9 +542,7 @@ public final class NailGold {
         needWithin(n, 0, MOST_AHEAD);
         int best = NONE;
         for (int from = 1; from <= SPAN_SEEDS; from++) {
-            draft.copyCourse(court);
-            draft.seed = from;
-            draft.passDays(n, book, judge, book.luck);
+            draftDays(n, book.luck, from);
             if (best == NONE) {
                 best = draft.chest;
             }
@@ -680,9 +678,12 @@ public final class NailGold {
         remembered = Math.min(MOST_UNDONE, remembered + 1);
     }
 
-    private void draftDays(int n, int luck) {
+    private void draftDays(int n, int luck, int fromSeed) {
         draft.copyCourse(court);
-        draft.passDays(n, book, judge, luck);
+        draft.seed = fromSeed;
+        for (int i = 0; i < n; i++) {
+            draft.passDay(book, judge, luck);
+        }
     }
 
     // A set of tricks is a number of 1 to 63, so all sets that fit are the bits of one long.
@@ -792,18 +793,16 @@ public final class NailGold {
                 kind = END;
                 return;
             }
-            kind = kindOf(bytes[from]);
+            int first = bytes[from];
+            boolean isLetter = first >= 'a' && first <= 'z';
+            boolean isDigit = first >= '0' && first <= '9';
+            kind = isLetter ? WORD : isDigit ? NUMBER : SIGN;
             to++;
-            while (kind != SIGN && to < length && kindOf(bytes[to]) == kind) {
+            int least = isLetter ? 'a' : '0';
+            int most = isLetter ? 'z' : '9';
+            while (kind != SIGN && to < length && bytes[to] >= least && bytes[to] <= most) {
                 to++;
             }
-        }
-
-        private static int kindOf(int sign) {
-            if (sign >= 'a' && sign <= 'z') {
-                return WORD;
-            }
-            return sign >= '0' && sign <= '9' ? NUMBER : SIGN;
         }
 
         boolean atEnd() {
@@ -1498,12 +1497,6 @@ public final class NailGold {
             }
         }
 
-        void passDays(int n, Book book, Judge judge, int luck) {
-            for (int i = 0; i < n; i++) {
-                passDay(book, judge, luck);
-            }
-        }
-
         int menIn(int state) {
             int bits = 0;
             for (int i = 0; i < men; i++) {
@@ -1596,37 +1589,37 @@ public final class NailGold {
         static final int DAYS = 30;
         static final int NAILS = 10;
         static final int TRUSTS = 100;
+        static final int PACKED = 12;
 
         final Judge judge;
+        final Book book;
         final Man figure = new Man();
         final int[] debts = new int[DAYS];
         final int[] at = new int[DAYS];
         final int[] heated = new int[DAYS];
         final int[] shown = new int[DAYS];
-        // A cell is the plan's number times 32 and the days kept, so that none need be cleared for the next plan.
-        final int[] known = new int[DAYS * NAILS * TRUSTS];
-        int plans;
+        // Five bits a day, twelve days to a long: the days kept and 1, or 0 while it is not known; an object stays small so.
+        final long[] known = new long[(DAYS + PACKED - 1) / PACKED * NAILS * TRUSTS];
         int horizon;
         int number;
         int firstDay;
-        Book book;
 
-        NailPlan(Judge judge) {
+        NailPlan(Judge judge, Book book) {
             this.judge = judge;
+            this.book = book;
         }
 
         // The court is a draft: it is used up by the days ahead.
-        void lookAt(int man, Book told, Court draft, int days) {
-            book = told;
+        void lookAt(int man, Court draft, int days) {
             number = man;
             horizon = Math.min(DAYS, days);
             firstDay = draft.day;
-            plans++;
+            Arrays.fill(known, 0L);
             figure.copyFrom(draft.man[man]);
             for (int d = 0; d < horizon; d++) {
                 debts[d] = draft.debts;
-                draft.passDay(told, judge, 0);
-                shown[d] = figure.heat(told);
+                draft.passDay(book, judge, 0);
+                shown[d] = figure.heat(book);
                 at[d] = figure.at;
                 heated[d] = figure.heated;
             }
@@ -1641,15 +1634,17 @@ public final class NailGold {
             if (d >= horizon || nails >= NAILS || trust >= TRUSTS) {
                 return 0;
             }
-            int cell = (d * NAILS + nails) * TRUSTS + trust;
-            if (known[cell] >> 5 == plans) {
-                return known[cell] & 31;
+            int cell = (d / PACKED * NAILS + nails) * TRUSTS + trust;
+            int shift = d % PACKED * 5;
+            int noted = (int) (known[cell] >> shift & 31);
+            if (noted > 0) {
+                return noted - 1;
             }
             int most = keptIfPassed(d, nails, trust);
             if (nails > 0 && most < horizon - d) {
                 most = Math.max(most, keptFrom(d, nails - 1, proven(trust)));
             }
-            known[cell] = plans << 5 | most;
+            known[cell] |= (long) (most + 1) << shift;
             return most;
         }
 
@@ -1700,16 +1695,19 @@ public final class NailGold {
     private static final class Market {
         static final int SETS = 1 << MOST_MEN;
 
+        final Court court;
         final int[] most = new int[(MOST_RIVALS + 1) * SETS];
-        Court court;
 
-        void weigh(Court now) {
-            court = now;
+        Market(Court court) {
+            this.court = court;
+        }
+
+        void weigh() {
             Arrays.fill(most, 0);
-            for (int rival = now.rivals - 1; rival >= 0; rival--) {
-                for (int gone = 0; gone < 1 << now.men; gone++) {
+            for (int rival = court.rivals - 1; rival >= 0; rival--) {
+                for (int gone = 0; gone < 1 << court.men; gone++) {
                     int best = given(rival, gone, NONE);
-                    for (int man = 0; man < now.men; man++) {
+                    for (int man = 0; man < court.men; man++) {
                         best = Math.max(best, given(rival, gone, man));
                     }
                     most[rival * SETS + gone] = best;

@@ -137,8 +137,8 @@ public final class ActsTest {
     private static void payments() {
         all("pay").fails(BAD, "pay", 1).call("days", 3).due(60, "count", 8).due(0, "count", 7).fails(BAD, "pay", 1)
                 .due(40, "sell", 0, 0, 40).fails(BAD, "pay", 0).fails(BAD, "pay", 41).fails(BAD, "pay", -5)
-                .due(30, "pay", 30).due(10, "count", 7).due(20, "sell", 1, 1, 10).due(10, "pay", 20).fails(BAD, "pay", 1)
-                .due(0, "count", 7).due(5, "count", 14);
+                .due(59, "pay", 1).due(30, "pay", 29).due(10, "count", 7).due(20, "sell", 1, 1, 10).due(10, "pay", 20).fails(BAD, "pay", 1)
+                .due(0, "count", 7).due(6, "count", 14);
         all("not more than the debts").call("days", 3).book("chest 900").fails(BAD, "pay", 61).due(0, "pay", 60)
                 .due(840, "count", 7);
     }

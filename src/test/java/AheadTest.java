@@ -14,6 +14,7 @@ public final class AheadTest {
         ahead();
         debtsAndChest();
         lives();
+        withoutLuck();
         doneWithAll();
         longest();
         longestByTheLaw();
@@ -49,6 +50,14 @@ public final class AheadTest {
         String man = "man trust 10 nails 0 tricks a";
         new Run("the 200th").book(man).law("doubt 1 if day>198", 1).due(200, "lives", 0).law("doubt 1 if day>199", 1)
                 .due(-1, "lives", 0).law("doubt 1", 1).due(1, "lives", 0).law("", 0).due(-1, "lives", 0);
+    }
+
+    /** Porcelain would pay the second step, and nobody would doubt. */
+    private static void withoutLuck() {
+        new Run("without luck").book("luck 100;chest 0;step days 1 cost 10 shows 0;step days 1 cost 10 shows 0;"
+                + "step days 1 cost 10 shows 0;man trust 25 nails 0 tricks a").law("doubt 20 if debts>1", 1).due(2, "lives", 0)
+                .due(-1, "done", 0).due(5, "ahead", 0, 2, 0).due(1, "ahead", 0, 2, 3).due(20, "owes", 2).due(0, "chest", 2)
+                .due(2, "longest", 0, -1).due(1, "needs", 0, 3).due(0, "days", 9).due(0, "done", 0).due(10, "count", 8);
     }
 
     private static void doneWithAll() {
@@ -115,6 +124,10 @@ public final class AheadTest {
         run.call("flee", 0).due(-1, "needs", 0, 1).fails(BAD, "needs", 0, 31);
         new Run("9 are not enough").book("man trust 20 nails 2 tricks a").law("doubt 30", 1).due(2, "needs", 0, 1).due(1, "longest", 0, -1)
                 .due(5, "needs", 0, 2).due(8, "needs", 0, 3).due(-1, "needs", 0, 4).due(-1, "needs", 0, 30);
+        // With his own 5 nails he would not come to the second step's cost; with fewer he does, and is doubted from the third day on.
+        new Run("in place of his own, ahead too").book("chest 0;step days 1 cost 0 shows 0;step days 30 cost 10 shows 0;"
+                + "man trust 30 nails 5 tricks a").law("doubt 30 if nails>4;doubt 5 if debts>0", 2).due(1, "lives", 0)
+                .due(0, "needs", 0, 6).due(1, "needs", 0, 7).due(1, "needs", 0, 8).due(2, "needs", 0, 9);
         Run fewer = new Run("fewer are better").book("man trust 30 nails 5 tricks a").law("doubt 30 if nails>0", 1).due(0, "needs", 0, 30);
         used(fewer, 0, 30, "131000000000000000000000000000");
     }
