@@ -100,6 +100,8 @@ public final class RivalsTest {
                 .due(77, "seed", 1).fails(BAD, "span", -1, 0).fails(BAD, "span", 201, 1).call("span", 200, 1).due(100, "count", 7);
         new Run("seeds 1 to 6 alone").book("luck 9" + man).due(150, "span", 1, 1).book("luck 8").due(100, "span", 1, 1)
                 .book("luck 55").due(100, "span", 1, 0).book("luck 56").due(150, "span", 1, 0);
+        // Of six draws of seed 1 all are below 59; no other seed has so many.
+        new Run("seed 1 has the most").book("luck 59" + man).due(400, "span", 6, 1);
         new Run("span without men").book("luck 100").due(500, "span", 200, 0).due(500, "span", 200, 1);
     }
 }

@@ -111,6 +111,8 @@ public final class TextsTest {
         run.wrongBook("man trust 1 nails 1 tricks ab c", 30).wrongBook("man trust 1 nails 1 trick a", 20);
         run.wrongBook("test cost 100 stops a", 10).wrongBook("test cost 1 stops z", 18).wrongBook("test stops a", 5);
         run.wrongBook("test cost 1 stops {", 18).wrongBook("test cost 1 stops `", 18);
+        run.wrongBook("rival", 5).wrongBook("chest ", 6).wrongBook("luck", 4).wrongBook("proof", 5).wrongBook("test cost 1 stops", 17);
+        run.wrongBook("barz 1", 0).wrongBook("bar 1z", 5).wrongBook("man trust 1 nails 1 tricks az", 27).wrongBook("man", 3);
         run.due(0, "count", 4).due(-1, "count", 5);
     }
 
