@@ -965,8 +965,7 @@ public final class NailGold {
         }
 
         private boolean readsRival(Court court) {
-            tape.advance();
-            int purse = tape.takeNumber(0, 999);
+            int purse = numberBehind("rival", 0, 999);
             if (purse == NONE) {
                 return false;
             }
@@ -974,29 +973,26 @@ public final class NailGold {
             return true;
         }
 
+        // The draft of a wrong text is thrown away, so that a NONE in it does no harm.
         private boolean readsChest(Court court) {
-            tape.advance();
-            int chest = tape.takeNumber(0, 999);
-            if (chest == NONE) {
-                return false;
-            }
-            court.chest = chest;
-            return true;
+            court.chest = numberBehind("chest", 0, 999);
+            return court.chest != NONE;
         }
 
         private boolean readsRule(Book book) {
-            int value = NONE;
             if (tape.isWord("bar")) {
-                value = numberBehind("bar", 0, 99);
-                book.bar = value;
-            } else if (tape.isWord("luck")) {
-                value = numberBehind("luck", 0, 100);
-                book.luck = value;
-            } else if (tape.isWord("proof")) {
-                value = numberBehind("proof", 0, 50);
-                book.proofGain = value;
+                book.bar = numberBehind("bar", 0, 99);
+                return book.bar != NONE;
             }
-            return value != NONE;
+            if (tape.isWord("luck")) {
+                book.luck = numberBehind("luck", 0, 100);
+                return book.luck != NONE;
+            }
+            if (tape.isWord("proof")) {
+                book.proofGain = numberBehind("proof", 0, 50);
+                return book.proofGain != NONE;
+            }
+            return false;
         }
     }
 
