@@ -52,10 +52,10 @@ public final class AheadTest {
                 .due(-1, "lives", 0).law("doubt 1", 1).due(1, "lives", 0).law("", 0).due(-1, "lives", 0);
     }
 
-    /** Porcelain would pay the second step, and nobody would doubt. */
+    /** Porcelain would pay the second step, and nobody would doubt; of seed 0 the first draw is 0, so that any luck would do. */
     private static void withoutLuck() {
         new Run("without luck").book("luck 100;chest 0;step days 1 cost 10 shows 0;step days 1 cost 10 shows 0;"
-                + "step days 1 cost 10 shows 0;man trust 25 nails 0 tricks a").law("doubt 20 if debts>1", 1).due(2, "lives", 0)
+                + "step days 1 cost 10 shows 0;man trust 25 nails 0 tricks a").law("doubt 20 if debts>1", 1).call("seed", 0).due(2, "lives", 0)
                 .due(-1, "done", 0).due(5, "ahead", 0, 2, 0).due(1, "ahead", 0, 2, 3).due(20, "owes", 2).due(0, "chest", 2)
                 .due(2, "longest", 0, -1).due(1, "needs", 0, 3).due(0, "days", 9).due(0, "done", 0).due(10, "count", 8);
     }

@@ -10,6 +10,7 @@ public final class KeepTest {
     public static void main(String[] args) {
         log();
         logOfSixty();
+        logGoesOn();
         seed();
         undo();
         undoEachAct();
@@ -52,6 +53,17 @@ public final class KeepTest {
             run.call("tried", 0, 0);
         }
         run.due(60, "count", 13).due(60, "led", 0, 0).due(1, "tried", 1, 0).due(1, "led", 1, 1).due(59, "led", 0, 0).due(10, "log", 0, 3);
+    }
+
+    private static void logGoesOn() {
+        Run run = new Run("each row moves up").book("bar 0;test cost 0 stops b;man trust 50 nails 0 tricks a;man trust 50 nails 0 tricks a");
+        for (int day = 0; day < 70; day++) {
+            run.call("tried", day % 2, 0).call("days", 1);
+        }
+        for (int ago = 0; ago < 60; ago++) {
+            run.due(69 - ago, "log", ago, 0).due((69 - ago) % 2, "log", ago, 1).due(1, "log", ago, 2);
+        }
+        run.due(-1, "log", 60, 0).due(30, "led", 0, 0).due(30, "led", 1, 0);
     }
 
     private static void seed() {
