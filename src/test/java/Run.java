@@ -6,8 +6,12 @@ final class Run {
     private static int rows = 0;
     private static int wrong = 0;
 
+    // What an object answers behind its 512th call is free, so that no row may stand there.
+    private static final int MOST_CALLS = 512;
+
     private final String name;
     private final NailGold gold = new NailGold();
+    private int calls = 0;
 
     Run(String name) {
         this.name = name;
@@ -60,20 +64,84 @@ final class Run {
         }
     }
 
+    private String ask(String call, int... args) {
+        calls++;
+        if (calls > MOST_CALLS) {
+            throw new IllegalStateException(name + " has more than " + MOST_CALLS + " calls");
+        }
+        return answer(gold, call, args);
+    }
+
     Run due(int want, String call, int... args) {
-        check(name + ": " + call + java.util.Arrays.toString(args), answer(gold, call, args), String.valueOf(want));
+        check(name + ": " + call + java.util.Arrays.toString(args), ask(call, args), String.valueOf(want));
         return this;
     }
 
     Run fails(Class<? extends RuntimeException> want, String call, int... args) {
-        check(name + ": " + call + java.util.Arrays.toString(args), answer(gold, call, args),
-                "throws." + want.getSimpleName());
+        check(name + ": " + call + java.util.Arrays.toString(args), ask(call, args), "throws." + want.getSimpleName());
         return this;
+    }
+
+    /** As fails, and nothing that can be asked is otherwise behind it. */
+    Run failsAndLeaves(Class<? extends RuntimeException> want, String call, int... args) {
+        String ahead = all();
+        fails(want, call, args);
+        check(name + ": what stands behind " + call + java.util.Arrays.toString(args), all(), ahead);
+        return this;
+    }
+
+    /** A call that answers, after which all that can be asked is as ahead of it. */
+    Run leaves(int want, String call, int... args) {
+        String ahead = all();
+        due(want, call, args);
+        check(name + ": what stands behind " + call + java.util.Arrays.toString(args), all(), ahead);
+        return this;
+    }
+
+    /** An act that can be undone: all that can be asked is then as ahead of it. */
+    Run undone(String act, int... args) {
+        String ahead = all();
+        call(act, args);
+        check(name + ": " + act + " changes something", String.valueOf(all().equals(ahead)), "false");
+        due(1, "undo");
+        check(name + ": what stands when " + act + java.util.Arrays.toString(args) + " is undone", all(), ahead);
+        return this;
+    }
+
+    /** What a call answers, for a row in which it does not matter what that is. */
+    int number(String call, int... args) {
+        return Integer.parseInt(ask(call, args));
+    }
+
+    /** All that can be asked without an act, in one text (the tape and fault() apart). */
+    private String all() {
+        StringBuilder told = new StringBuilder();
+        int[] most = new int[15];
+        for (int what = 0; what < 15; what++) {
+            most[what] = Integer.parseInt(ask("count", what));
+            told.append(most[what]).append(' ');
+        }
+        rowsOf(told, "step", most[0], 4);
+        rowsOf(told, "man", most[1], 7);
+        rowsOf(told, "test", most[2], 2);
+        rowsOf(told, "rival", most[3], 2);
+        rowsOf(told, "log", Math.min(2, most[13]), 4);
+        String seed = ask("seed", 0);
+        ask("seed", Integer.parseInt(seed));
+        return told.append(seed).toString();
+    }
+
+    private void rowsOf(StringBuilder told, String call, int rows, int whats) {
+        for (int row = 0; row < rows; row++) {
+            for (int what = 0; what < whats; what++) {
+                told.append(ask(call, row, what)).append(' ');
+            }
+        }
     }
 
     /** A call whose answer does not matter to the row that is looked at. */
     Run call(String call, int... args) {
-        String got = answer(gold, call, args);
+        String got = ask(call, args);
         check(name + ": " + call + java.util.Arrays.toString(args) + " throws nothing",
                 String.valueOf(got.startsWith("throws.")), "false");
         return this;
@@ -81,11 +149,11 @@ final class Run {
 
     /** The tape has this text alone (characters 0 to 255). */
     Run tape(String text) {
-        answer(gold, "end", 0);
+        ask("end", 0);
         for (int[] five : fives(text)) {
-            answer(gold, "feed", five);
+            ask("feed", five);
         }
-        check(name + ": the tape takes '" + text + "'", answer(gold, "end", text.length()), "1");
+        check(name + ": the tape takes '" + text + "'", ask("end", text.length()), "1");
         return this;
     }
 
@@ -104,7 +172,7 @@ final class Run {
 
     Run book(String text) {
         tape(text);
-        String got = answer(gold, "book");
+        String got = ask("book");
         check(name + ": '" + text + "' is a text of the book", String.valueOf(got.startsWith("throws.")), "false");
         return this;
     }
@@ -122,7 +190,7 @@ final class Run {
     }
 
     private Run wrongAt(String text, int at) {
-        check(name + ": '" + text + "' fault", answer(gold, "fault"), String.valueOf(at));
+        check(name + ": '" + text + "' fault", ask("fault"), String.valueOf(at));
         return this;
     }
 }
