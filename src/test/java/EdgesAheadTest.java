@@ -148,6 +148,9 @@ public final class EdgesAheadTest {
         used(new Run("23: as many as he has, or fewer").book("bar 0;" + man(0, 9)).law("doubt 30", 1), 0, 30, "");
         // Who has nails is doubted: he uses them all at once, though they do no good else.
         used(new Run("23: nails in the hand").book("proof 0;" + man(10, 4)).law("doubt 1 if nails>0", 1), 0, 30, "4");
+        // Ahead of the first day and of the 13th he has the same trust, but not the same nails and days to go.
+        used(new Run("23: the same trust again").book("proof 12;" + man(20, 2)), 0, 30, "0000000000100000000000100");
+        used(new Run("23: nine, three in four days").book("proof 4;" + man(10, 9)).law("doubt 3", 1), 0, 12, "111011101110");
         Run behind = used(new Run("23: behind acts").book(man(20, 3)).law("doubt 5", 1).call("proof", 0).call("days", 1), 0, 7, "0001010");
         behind.due(2, "man", 0, 1).due(25, "man", 0, 0);
     }

@@ -33,6 +33,12 @@ public final class RandomRunsTest {
     }
 
     private void go() {
+        int prelude = oneOf(12);
+        if (prelude == 0) {
+            manyDays();
+        } else if (prelude == 1) {
+            manyTests();
+        }
         if (oneOf(5) > 0) {
             tell(drawnBook(), "book");
         }
@@ -58,6 +64,24 @@ public final class RandomRunsTest {
             } else {
                 drawnCall(ASKED[oneOf(ASKED.length)]);
             }
+        }
+    }
+
+    /** Near the last day that is counted, and by luck near all that the chest can hold. */
+    private void manyDays() {
+        tell("bar 0;luck " + within(0, 100) + ";man trust 50 nails 5 tricks a;rival 999;step days 30 cost 99 shows 1", "book");
+        int much = within(47, 50);
+        for (int i = 0; i < much; i++) {
+            both("days", within(195, 200));
+        }
+    }
+
+    /** Near the most debts, with a log from which rows have gone. */
+    private void manyTests() {
+        tell("bar 0;chest 0;man trust 50 nails 5 tricks a;man trust 60 nails 9 tricks b;test cost 99 stops ab;test cost 97 stops c", "book");
+        int much = within(58, 103);
+        for (int i = 0; i < much; i++) {
+            both("tried", oneOf(2), oneOf(2));
         }
     }
 
