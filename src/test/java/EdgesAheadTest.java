@@ -151,6 +151,9 @@ public final class EdgesAheadTest {
         // Ahead of the first day and of the 13th he has the same trust, but not the same nails and days to go.
         used(new Run("23: the same trust again").book("proof 12;" + man(20, 2)), 0, 30, "0000000000100000000000100");
         used(new Run("23: nine, three in four days").book("proof 4;" + man(10, 9)).law("doubt 3", 1), 0, 12, "111011101110");
+        // Ahead of day 1 without a nail used, and ahead of day 13 with all of them used, he has the same trust; on day 13 none may be left.
+        used(new Run("23: the same trust with nine and with none").book("proof 0;" + man(20, 9)).law("doubt 5 if day<1 and nails>8;"
+                + "doubt 5 if day>0 and day<2;doubt 3 if day>12 and day<14;doubt 30 if day>12 and day<14 and nails>0", 4), 0, 30, "10000000000008");
         Run behind = used(new Run("23: behind acts").book(man(20, 3)).law("doubt 5", 1).call("proof", 0).call("days", 1), 0, 7, "0001010");
         behind.due(2, "man", 0, 1).due(25, "man", 0, 0);
     }
