@@ -31,17 +31,17 @@ public final class FaceTest {
         TreeSet<String> due = new TreeSet<>();
         Matcher line = Pattern.compile("(?m)^    (public [^;=]*)( = [^;]*)?;").matcher(code);
         while (line.find()) {
-            due.add(line.group(1).replaceAll("(\\bint|\\bboolean) [a-z]+(?=[,)])", "$1").replaceAll(" throws .*", ""));
+            due.add(line.group(1).replaceAll("(\\bint|\\bboolean) [a-z]+(?=[,)])", "$1"));
         }
         TreeSet<String> got = new TreeSet<>();
         for (Method method : NailGold.class.getDeclaredMethods()) {
             if (!Modifier.isPrivate(method.getModifiers()) && !method.isSynthetic()) {
                 got.add(Modifier.toString(method.getModifiers()) + " " + method.getReturnType() + " " + method.getName()
-                        + kinds(method.getParameterTypes()));
+                        + "(" + kinds(method.getParameterTypes()) + ")" + throwsOf(method));
             }
         }
         for (Constructor<?> maker : NailGold.class.getDeclaredConstructors()) {
-            got.add(Modifier.toString(maker.getModifiers()) + " NailGold" + kinds(maker.getParameterTypes()));
+            got.add(Modifier.toString(maker.getModifiers()) + " NailGold(" + kinds(maker.getParameterTypes()) + ")");
         }
         for (Field field : NailGold.class.getDeclaredFields()) {
             if (!Modifier.isPrivate(field.getModifiers())) {
@@ -62,7 +62,11 @@ public final class FaceTest {
         for (Class<?> kind : kinds) {
             names.add(kind.getSimpleName());
         }
-        return "(" + String.join(", ", names) + ")";
+        return String.join(", ", names);
+    }
+
+    private static String throwsOf(Method method) {
+        return method.getExceptionTypes().length == 0 ? "" : " throws " + kinds(method.getExceptionTypes());
     }
 
     private static void privateNames() {
